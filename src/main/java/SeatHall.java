@@ -49,22 +49,21 @@ public final class SeatHall {
     private static final int MILLION = 1000000;
     private static final int BILLION = 1000000000;
 
-    private final Tape tape = new Tape();
-    private final Reader reader = new Reader(tape);
+    private final Reader reader = new Reader();
+    private final Tape tape = reader.tape;
     private final Books books = new Books();
     private final Crowd crowd = new Crowd();
-    private final Search search = new Search(books);
+    private final Search search = new Search();
     private final Seating seating = new Seating();
-    private Run run = new Run();
+    private final Run run = new Run();
     private final Run kept = new Run();
-    private Told told = new Told();
+    private Told told = books.told;
     private Told spareTold = new Told();
     private int faultPlace = NONE;
     private int refusedTexts;
     private int refusedRuns;
 
     public SeatHall() {
-        books.open(told);
     }
 
     // ---- the hall ----
@@ -232,7 +231,7 @@ public final class SeatHall {
         if (from < 0 || to > MOST_PRICE || from > to || step < 1 || (to - from) / step >= MOST_PRICES) {
             throw new IllegalArgumentException();
         }
-        return search.throughPrices(ticket, from, to, step);
+        return search.throughPrices(books, ticket, from, to, step);
     }
 
     public long found(int what) throws NoSuchElementException {
@@ -276,7 +275,7 @@ public final class SeatHall {
         if (price < 0 || price > MOST_PRICE) {
             throw new IllegalArgumentException();
         }
-        return told.evenings < 2 ? NONE : search.throughPairs(price);
+        return told.evenings < 2 ? NONE : search.throughPairs(books, price);
     }
 
     public int paired(int what) throws NoSuchElementException {
@@ -416,19 +415,19 @@ public final class SeatHall {
     }
 
     private static void copyRow(int[] from, int[] to) {
-        for (int i = 0; i < from.length && i < to.length; i++) {
+        for (int i = 0; from != null && to != null && i < from.length && i < to.length; i++) {
             to[i] = from[i];
         }
     }
 
     private static void fillRow(int[] row, int number) {
-        for (int i = 0; i < row.length; i++) {
+        for (int i = 0; row != null && i < row.length; i++) {
             row[i] = number;
         }
     }
 
     private static void fillWide(long[] row, long number) {
-        for (int i = 0; i < row.length; i++) {
+        for (int i = 0; row != null && i < row.length; i++) {
             row[i] = number;
         }
     }
@@ -541,7 +540,7 @@ public final class SeatHall {
         private static final int CHAIRS_LINE = 1 << TICKETS;
         private static final int COSTS_LINE = 2 << TICKETS;
 
-        private final Tape tape;
+        final Tape tape = new Tape();
         private final int[] types = new int[MOST_BYTES];
         private Told into = new Told();
         private int length;
@@ -551,10 +550,6 @@ public final class SeatHall {
         private int toldLines;
         private int fault;
         private int faultPlace;
-
-        Reader(Tape tape) {
-            this.tape = tape;
-        }
 
         int place() {
             return faultPlace;
@@ -593,16 +588,16 @@ public final class SeatHall {
                 readSeats();
             } else if (isWord("year")) {
                 tellOnce(1 << YEAR);
-                readPrice(YEAR);
+                put(into.prices, YEAR, takeNumber(0, MOST_PRICE));
             } else if (isWord("ten")) {
                 tellOnce(1 << TEN);
                 into.tenLasts = takeNumber(1, MOST_OF_A_TEN);
-                readPrice(TEN);
+                put(into.prices, TEN, takeNumber(0, MOST_PRICE));
             } else if (isWord("set")) {
                 readSet();
             } else if (isWord("cheap")) {
                 tellOnce(1 << YOUNG);
-                readPrice(YOUNG);
+                put(into.prices, YOUNG, takeNumber(0, MOST_PRICE));
             } else {
                 refuse(1);
             }
@@ -647,13 +642,9 @@ public final class SeatHall {
             into.rows++;
         }
 
-        private void readPrice(int ticket) {
-            put(into.prices, ticket, takeNumber(0, MOST_PRICE));
-        }
-
         private void readSet() {
             tellOnce(1 << SET);
-            readPrice(SET);
+            put(into.prices, SET, takeNumber(0, MOST_PRICE));
             needWord("of");
             // No more than every evening and one that is a fault can stand here.
             for (int i = 0; i <= MOST_EVENINGS && (i == 0 || type == NUMBER); i++) {
@@ -693,27 +684,27 @@ public final class SeatHall {
         }
 
         private int takeNumber(int least, int most) {
-            int number = number();
+            int taken = number();
             if (type != NUMBER) {
                 refuse(1);
-            } else if (number < least || number > most) {
+            } else if (taken < least || taken > most) {
                 refuse(2);
             } else {
                 advance();
             }
-            return number;
+            return taken;
         }
 
-        /** The token as a number; NONE if it has too many digits. */
+        /** The token as a number; NONE if it is none or has too many digits. */
         private int number() {
             if (type != NUMBER || stop - start > MOST_DIGITS) {
                 return NONE;
             }
-            int number = 0;
+            int value = 0;
             for (int i = start; i < stop; i++) {
-                number = number * 10 + at(tape.bytes, i) - '0';
+                value = value * 10 + at(tape.bytes, i) - '0';
             }
-            return number;
+            return value;
         }
 
         private boolean takesWord(String word) {
@@ -800,29 +791,21 @@ public final class SeatHall {
         private final long[] going;
         private final int[] comings = new int[MOST_EVENINGS];
         private final long[] lefts = new long[MOST_EVENINGS];
+        // The next evening's values by k and n.
         private final long[] ahead;
-        private final long[] shares;
+        // The cases by n, in billionths: a ten's k follows from it.
+        private final long[] shares = new long[MOST_EVENINGS + 1];
         private int lasts;
         private long value;
         private long gone;
         private long sunk;
         private long thoughtGone;
 
-        /** The rows ahead and shares are scratch, one for all plans. */
-        Plan(int ticket, long[] ahead, long[] shares) {
+        Plan(int ticket) {
             this.ticket = ticket;
             this.cases = ticket == TEN ? MOST_OF_A_TEN + 1 : 1;
             this.going = new long[ticket == TEN ? MOST_EVENINGS * (MOST_OF_A_TEN + 1) : MOST_EVENINGS];
-            this.ahead = ahead;
-            this.shares = shares;
-        }
-
-        static long[] rowAhead() {
-            return new long[(MOST_OF_A_TEN + 1) * HAD];
-        }
-
-        static long[] rowOfShares() {
-            return new long[MOST_EVENINGS + 1];
+            this.ahead = new long[ticket == TEN ? HAD * (MOST_OF_A_TEN + 1) : HAD];
         }
 
         long value() {
@@ -954,23 +937,19 @@ public final class SeatHall {
     /** All plans of a hall, what each kind buys by them, and what follows from that. */
     private static final class Books {
         final int[] bought = new int[MOST_KINDS];
+        Told told = new Told();
+        final Plan spare = new Plan(SET);
         private final Plan[] plans = new Plan[MOST_KINDS * TICKETS];
-        final Plan spare;
         private final int[] later = new int[MOST_KINDS];
-        private Told told = new Told();
 
         Books() {
-            long[] ahead = Plan.rowAhead();
-            long[] shares = Plan.rowOfShares();
             for (int i = 0; i < plans.length; i++) {
-                plans[i] = new Plan(i % TICKETS, ahead, shares);
+                plans[i] = new Plan(i % TICKETS);
             }
-            spare = new Plan(SET, ahead, shares);
         }
 
         void open(Told opened) {
             told = opened;
-            fillRow(bought, DOOR);
             for (int kind = 0; kind < told.kinds; kind++) {
                 for (int ticket = DOOR; ticket < TICKETS; ticket++) {
                     Plan plan = planOf(kind, ticket);
@@ -1241,7 +1220,6 @@ public final class SeatHall {
 
     /** Looks for prices and for pairs of evenings, and keeps the latest of each that it found. */
     private static final class Search {
-        private final Books books;
         private final int[] prices = new int[TICKETS];
         private final int[] tickets = new int[MOST_KINDS];
         private final int[] set = new int[MOST_EVENINGS];
@@ -1251,16 +1229,12 @@ public final class SeatHall {
         int pairFirst;
         int pairSecond;
 
-        Search(Books books) {
-            this.books = books;
-        }
-
         void forget() {
             hasPrices = false;
             hasPair = false;
         }
 
-        int throughPrices(int ticket, int from, int to, int step) {
+        int throughPrices(Books books, int ticket, int from, int to, int step) {
             copyRow(books.told.prices, prices);
             putWide(best, 1, NONE);
             putWide(best, 3, NONE);
@@ -1269,14 +1243,14 @@ public final class SeatHall {
             // No price is above 9999, nor a step that is taken: this does not wrap.
             for (int price = from; price <= to && looked < MOST_PRICES; price += Math.min(step, MOST_PRICE + 1)) {
                 put(prices, ticket, price);
-                weigh(price);
+                weigh(books, price);
                 looked++;
             }
             hasPrices = true;
             return looked;
         }
 
-        private void weigh(int price) {
+        private void weigh(Books books, int price) {
             Told told = books.told;
             for (int kind = 0; kind < told.kinds; kind++) {
                 put(tickets, kind, books.choose(kind, prices, books.planOf(kind, SET).value()));
@@ -1297,7 +1271,7 @@ public final class SeatHall {
             }
         }
 
-        long throughPairs(int price) {
+        long throughPairs(Books books, int price) {
             copyRow(books.told.prices, prices);
             put(prices, SET, price);
             fillRow(set, 0);
@@ -1306,7 +1280,7 @@ public final class SeatHall {
                 put(set, first, 1);
                 for (int second = first + 1; second < books.told.evenings; second++) {
                     put(set, second, 1);
-                    long earned = earnedBySet();
+                    long earned = earnedBySet(books);
                     put(set, second, 0);
                     if (earned > most) {
                         most = earned;
@@ -1320,7 +1294,7 @@ public final class SeatHall {
             return most;
         }
 
-        private long earnedBySet() {
+        private long earnedBySet(Books books) {
             Told told = books.told;
             for (int kind = 0; kind < told.kinds; kind++) {
                 books.spare.make(told, kind, true, set);

@@ -17,6 +17,7 @@ public final class PromiseTests {
         feed();
         hallTakesTheTape();
         hallForgets();
+        hallsOneBehindTheOther();
         faults();
         faultNumbers();
         faultCounts();
@@ -39,6 +40,10 @@ public final class PromiseTests {
         owed();
         runs();
         wetRun();
+        runOfTens();
+        runOfAllPeople();
+        runThatFalls();
+        drawsOnTheEdge();
         images();
         CHECK.end();
     }
@@ -148,6 +153,35 @@ public final class PromiseTests {
         row("3: status stays", new long[] {1, 1}, i -> (long) x.count(8 + i));
     }
 
+    private static void read(SeatHall x, String text) {
+        Check.feed(x, text);
+        due("3: read " + text, 0, () -> x.hall(text.length()));
+    }
+
+    private static void hallsOneBehindTheOther() {
+        SeatHall x = new SeatHall();
+        String all = "chairs 3;costs 4;evening 1 2 rain 3;evening 1 2 rain 3;people 1 comes 1000 wet 5 habit 6 falls 7 worth 9 9 9 9 young;"
+                + "seats 5 adds 6;year 1;ten 2 3;set 4 of 0;cheap 5;";
+        // Three, in case that two take turns.
+        read(x, all);
+        due("19: three and more", 3, () -> x.over(0, 0));
+        read(x, all);
+        read(x, "evening 0 0;evening 0 0;people 1 comes 1000 worth 1 1 1 1;");
+        row("3: nothing is left of it", new long[] {1, 0, 2, 1, 1, 0, 1}, i -> (long) x.count(i));
+        row("3: no price", new long[] {-1, -1, -1, -1, -1}, i -> (long) x.price(i));
+        row("3: no rain, no set", new long[] {0, 0, 0, 0}, i -> (long) x.evening(0, i));
+        row("3: nor of people", new long[] {1, 1000, 1000, 0, 0, 0, 1, 1, 1, 1, 0}, i -> (long) x.kind(0, i));
+        due("19: anew", 1, () -> x.over(0, 0));
+        read(x, "evening 0 9;evening 0 9;people 1 comes 1000 worth 9 0 0 0;set 0 of 0;");
+        due("12: by the set", 1, () -> Check.bit(x.goes(0, 0, 0, 0)));
+        read(x, "evening 0 9;evening 0 9;people 1 comes 1000 worth 9 0 0 0;set 0 of 1;");
+        due("12: by another set", 0, () -> Check.bit(x.goes(0, 0, 0, 0)));
+        read(x, "chairs 2;evening 0 9;people 3 comes 1000 worth 9 0 0 0;");
+        due("19: anew again", 2, () -> x.over(0, 0));
+        read(x, "chairs 1;evening 0 9;people 3 comes 1000 worth 9 0 0 0;");
+        due("19: one", 1, () -> x.over(0, 0));
+    }
+
     private static void fault(String text, int number, int place) {
         SeatHall x = new SeatHall();
         Check.feed(x, text);
@@ -160,6 +194,14 @@ public final class PromiseTests {
         fault(";", 1, 0);
         fault("  chair 5;", 1, 2);
         fault("Chairs 5;", 1, 0);
+        fault("chairsz 5;", 1, 0);
+        fault("achairs 5;", 1, 0);
+        fault("thairs 5;", 1, 0);
+        fault("chairt 5;", 1, 0);
+        fault("chairs`5;", 1, 6);
+        fault("chairs{5;", 1, 6);
+        fault("chairs/5;", 1, 6);
+        fault("chairs:5;", 1, 6);
         fault("chairs\t5;", 1, 6);
         fault("chairs 5", 1, 8);
         fault("chairs 5  \n ", 1, 12);
@@ -200,6 +242,8 @@ public final class PromiseTests {
         fault("chairs 00005;", 2, 7);
         fault("chairs 0400;", 0, -1);
         fault("costs 9999;", 0, -1);
+        fault("costs 0;evening 0 0 rain 0;people 0 comes 0 thinks 0 wet 0 habit 0 falls 0 worth 0 0 0 0;seats 1 adds 0;", 0, -1);
+        fault("chairs 1;evening 0 0;year 0;ten 1 0;set 0 of 0;cheap 0;", 0, -1);
         fault("costs 10000;", 2, 6);
         fault("evening 4 0;", 2, 8);
         fault("evening 3 1000;", 2, 10);
@@ -356,6 +400,12 @@ public final class PromiseTests {
         SeatHall w = Check.hall("evening 0 0;".repeat(16) + "people 1 comes 1000 falls 31 worth 10 0 0 0;year 0;");
         due("12: the gain falls with 16 had", 1, () -> Check.bit(w.goes(0, 15, 0, 16)));
         due("12: one more would take it from a like one", 1, () -> Check.bit(w.goes(0, 0, 0, 16)));
+        SeatHall t = Check.hall("evening 0 0;".repeat(15) + "evening 1 99;people 1 comes 1000 falls 30 worth 1 999 0 0;ten 12 0;");
+        due("12: a ten for the last one", 2, () -> t.buys(0));
+        due("12: sixteen had would spoil it", 0, () -> Check.bit(t.goes(0, 0, 12, 16)));
+        due("12: the last one with 16 had", 1, () -> Check.bit(t.goes(0, 15, 12, 16)));
+        due("12: the last one of the ten", 1, () -> Check.bit(t.goes(0, 15, 1, 0)));
+        due("12: no more of the ten", 0, () -> Check.bit(t.goes(0, 15, 0, 0)));
         SeatHall v = Check.hall("evening 0 0;".repeat(2) + "people 1 comes 1000 falls 500 worth 10 0 0 0;");
         due("12: the last half", 1, () -> Check.bit(v.goes(0, 1, 0, 1)));
         due("12: nothing is left of it", 0, () -> Check.bit(v.goes(0, 1, 0, 2)));
@@ -411,6 +461,9 @@ public final class PromiseTests {
         SeatHall z = Check.hall("evening 0 999;".repeat(16) + "people 1 comes 1000 worth 999 0 0 0;people 1 comes 3 worth 999 0 0 0;");
         row("14: a kinder year is at most 9999", new long[] {0, 0, 0, -1, 9999}, i -> z.often(0, i));
         due("14: it is told without a year", 47, () -> z.often(1, 4));
+        SeatHall t = Check.hall("evening 0 4;evening 0 4;people 1 comes 500 thinks 1000 falls 100 worth 10 0 0 0;year 3;");
+        due("14: kinder by chance", 4, () -> t.often(0, 4));
+        row("14: the plans are by THOUGHT again", new long[] {11000, 16000}, i -> (long) t.good(0, i));
         SeatHall w = Check.hall("evening 0 0;people 1 comes 900 worth 10 0 0 0;");
         due("14: a kinder year of 0", 0, () -> w.often(0, 4));
         due("14: pays nothing at the door", -1, () -> w.often(0, 3));
@@ -481,6 +534,8 @@ public final class PromiseTests {
         // None buys a set by that, nor a year that is as good as the door.
         row("18: the latest", new long[] {9999, 5000, 9999, 1000000, -1}, i -> x.found(i));
         due("17: the last is to", 2, () -> x.prices(1, 4, 8, 4));
+        due("17: none and the last", 2, () -> x.prices(1, 0, 9999, 9999));
+        due("17: none alone", 1, () -> x.prices(1, 0, 9999, 10000));
         SeatHall y = Check.hall("costs 9;evening 0 5;people 2 comes 1000 worth 9 0 0 0;year 5;cheap 1;");
         due("17: four", 4, () -> y.prices(1, 1, 4, 1));
         row("18: nothing lives", new long[] {4, 8000, 1, 2000000, -1}, i -> y.found(i));
@@ -511,6 +566,8 @@ public final class PromiseTests {
         SeatHall w = Check.hall("chairs 7;evening 0 0;evening 1 0;people 0 comes 1000 worth 9 0 0 0;people 5 comes 0 worth 9 0 0 0;");
         due("19: the worst evening", 7, () -> w.over(0, 999999999));
         due("19: who never comes", 400, () -> w.over(1, 0));
+        SeatHall u = Check.hall("chairs 395;evening 0 0;" + "people 5 comes 1 worth 9 0 0 0;".repeat(5) + "people 5 comes 1000 worth 9 0 0 0;");
+        due("19: the last of six kinds", 395, () -> u.over(5, 0));
         // Numbers that are cut down lose: behind the highest standing falls below the doubt again.
         SeatHall v = Check.hall("chairs 1;evening 0 0;people 5 comes 500 worth 9 0 0 0;");
         due("19: the greatest number of all", 400, () -> v.over(0, 999999960));
@@ -543,6 +600,9 @@ public final class PromiseTests {
         SeatHall v = Check.hall("evening 0 1 rain 7;people 1 comes 999 wet 1 worth 9 0 0 0;people 1 comes 999 thinks 0 wet 1 worth 9 0 0 0;year 0;");
         SeatHall u = Check.hall("chairs 4;evening 0 9;people 3 comes 1000 worth 9 0 0 0;people 2 comes 1000 thinks 0 worth 10 0 0 0;ten 1 1;");
         row("20: tens take no seats", new long[] {0, 0, 0, 0}, i -> (long) u.again(0, 0, i));
+        SeatHall t = Check.hall("chairs 4;evening 0 5;evening 1 5;people 6 comes 1000 thinks 0 worth 4 6 0 0;year 1;");
+        row("20: the first kind", new long[] {0, 0, 2000000, 0}, i -> (long) t.again(1, 0, i));
+        row("20: those that come by the door's plan", new long[] {0, 0, 0, 0}, i -> (long) t.again(0, 0, i));
         row("20: towards less", new long[] {1007, -2, 998993, 1007}, i -> (long) v.again(0, 2, i));
     }
 
@@ -567,6 +627,8 @@ public final class PromiseTests {
         due("21: whatever set is told", 9000, () -> z.pair(9));
         due("16: which is as it was", 1000, z::earns);
         due("6: with its evening alone", 0, () -> z.evening(1, 3));
+        SeatHall v = Check.hall("evening 0 9;evening 0 9;people 1 comes 0 thinks 1000 worth 9 0 0 0;");
+        due("21: bought by THOUGHT", 17000, () -> v.pair(17));
         SeatHall w = Check.hall("evening 0 9;people 1 comes 1000 worth 5 0 0 0;set 1 of 0;");
         due("21: one evening", -1, () -> w.pair(0));
         due("21: the price all the same", ILLEGAL, () -> w.pair(10000));
@@ -581,6 +643,8 @@ public final class PromiseTests {
         row("23: two years", new long[] {77000, 147000, 10, 3, 2, 71, 5}, i -> x.years(2, 500, i));
         row("23: none goes", new long[] {70000, 4200000, 10, 9, 7, 60, 5}, i -> x.years(60, 0, i));
         row("23: all go", new long[] {86000, 156000, 10, 0, 0, 76, 5}, i -> x.years(2, 1000, i));
+        SeatHall y = Check.hall("people 8 comes 1000 worth 9 0 0 0 young;people 1 comes 1000 worth 9 0 0 0;");
+        row("23: the first kind goes over", new long[] {0, 0, 4, 5}, i -> y.years(2, 375, i));
         due("23: what -1", NO_SUCH, () -> x.years(1, 0, -1));
         due("23: what ahead of years", NO_SUCH, () -> x.years(0, -1, 7));
         due("23: years 0", ILLEGAL, () -> x.years(0, 0, 0));
@@ -614,6 +678,10 @@ public final class PromiseTests {
         SeatHall v = Check.hall("evening 0 0;people 0 comes 1000 worth 9 0 0 0;seats 9 adds 9;");
         due("24: nobody", 0, v::order);
         due("25: no ticket", NO_SUCH, () -> v.ordered(0));
+        SeatHall t = Check.hall("evening 0 0;people 2 comes 1000 worth 9 0 0 0;people 3 comes 500 worth 9 0 0 0;seats 1 adds 5;seats 1 adds 6;seats 1 adds 7;");
+        due("24: the row that adds most first", 7000 + 6000 + 2500, t::order);
+        SeatHall s = Check.hall("evening 0 0;people 9 comes 1000 worth 9 0 0 0;seats 1 adds 2;seats 2 adds 4;seats 1 adds 3;seats 1 adds 1;");
+        due("24: all rows are taken", 2000 + 8000 + 3000 + 1000, s::order);
         SeatHall u = Check.hall("evening 0 0 rain 1;people 3 comes 1 wet 1 worth 9 0 0 0;seats 9 adds 2;");
         due("24: cut down of each seat", 3, u::order);
     }
@@ -634,6 +702,14 @@ public final class PromiseTests {
         row("26: at the door", new long[] {0, 0, 0, 0}, i -> (long) w.owed(0, i));
         SeatHall v = Check.hall("evening 0 9;evening 0 9;evening 0 9;people 1 comes 1000 worth 20 0 0 0;year 1;");
         row("26: cut down", new long[] {666, 333, 0}, i -> (long) v.owed(0, i));
+        SeatHall u = Check.hall(four + "people 1 comes 1000 worth 9 0 0 0;set 7 of 1;");
+        row("26: a set of one", new long[] {7000, 0, 0, 0}, i -> (long) u.owed(0, i));
+        SeatHall t = Check.hall("evening 0 9;evening 0 9;people 1 comes 300 worth 20 0 0 0;ten 1 3;");
+        row("26: a ten of one", new long[] {2100, 1470}, i -> (long) t.owed(0, i));
+        SeatHall s = Check.hall("evening 0 9;people 1 comes 1000 worth 20 0 0 0;year 1;");
+        due("26: the only evening", 0, () -> s.owed(0, 0));
+        SeatHall r = Check.hall("evening 0 9 rain 1;people 1 comes 1 thinks 1000 wet 1 worth 20 0 0 0;ten 7 1;");
+        due("26: LEFT is cut down", 999, () -> r.owed(0, 0));
     }
 
     /** The draws of a seed, as the document tells them. */
@@ -713,8 +789,70 @@ public final class PromiseTests {
         row("29: always wet", new long[] {2, 1, 6, 1, 0, 2}, i -> (long) y.seen(0, i));
     }
 
+    private static void runOfTens() {
+        SeatHall x = Check.hall("chairs 9;evening 0 8;evening 0 8;evening 0 8;people 3 comes 500 worth 9 0 0 0;ten 1 0;");
+        due("27: a ten of one", 2, () -> x.buys(0));
+        for (int seed = 0; seed < 20; seed++) {
+            int[] draws = draws(seed * 1299709, 12);
+            x.begin(seed * 1299709);
+            x.on(3);
+            boolean[] had = new boolean[3];
+            for (int e = 0; e < 3; e++) {
+                int evening = e;
+                int came = 0;
+                for (int i = 0; i < 3; i++) {
+                    // Of each evening the first draw is the rain's.
+                    boolean comes = !had[i] && draws[4 * e + 1 + i] < 500;
+                    came += comes ? 1 : 0;
+                    had[i] |= comes;
+                }
+                due("29: tens of seed " + seed + " on " + e, came, () -> x.seen(evening, 0));
+            }
+        }
+    }
+
+    private static void runOfAllPeople() {
+        SeatHall x = Check.hall("evening 0 9;evening 0 9;" + "people 60 comes 1000 thinks 500 worth 9 0 0 0;".repeat(6) + "ten 1 0;");
+        x.begin(4);
+        x.on(2);
+        row("29: all have had theirs", new long[] {0, 0, 0, 0, 0, 0, 0, 0, 0, 0, NO_SUCH}, i -> (long) x.seen(1, i));
+        row("29: on the first evening", new long[] {360, 359, 0, 0, 60, 60, 60, 60, 60, 60, NO_SUCH}, i -> (long) x.seen(0, i));
+    }
+
+    private static void runThatFalls() {
+        SeatHall x = Check.hall("evening 0 0;".repeat(4) + "people 1 comes 1000 falls 400 worth 9 0 0 0;");
+        // Three gain all that there is, and it goes only where that is more than to stay.
+        row("29: goes while it gains", new long[] {0, 1, 1, 1}, i -> {
+            x.begin(1);
+            x.on(4);
+            return (long) x.seen(i, 0);
+        });
+    }
+
+    private static void drawsOnTheEdge() {
+        for (int seed = 1; seed < 9; seed++) {
+            int s = seed;
+            int[] draws = draws(seed, 3);
+            edge("28: rain " + seed, s, "evening 0 0 rain " + draws[0], 3, 0);
+            edge("28: more rain " + seed, s, "evening 0 0 rain " + (draws[0] + 1), 3, 1);
+            edge("28: comes " + seed, s, "evening 0 0;people 1 comes " + draws[1] + " worth 9 0 0 0", 0, 0);
+            edge("28: comes oftener " + seed, s, "evening 0 0;people 1 comes " + (draws[1] + 1) + " worth 9 0 0 0", 0, 1);
+            // The draws of evening 0: rain, whether it can, and habit, because it does not gain.
+            edge("28: habit " + seed, s, "evening 1 9;evening 0 9;people 1 comes 1000 habit " + draws[2] + " worth 9 0 0 0;year 0", 0, 0);
+            edge("28: more habit " + seed, s, "evening 1 9;evening 0 9;people 1 comes 1000 habit " + (draws[2] + 1) + " worth 9 0 0 0;year 0",
+                    0, 1);
+        }
+    }
+
+    private static void edge(String name, int seed, String text, int what, long want) {
+        SeatHall x = Check.hall(text + ";");
+        x.begin(seed);
+        x.on(1);
+        due(name, want, () -> x.seen(0, what));
+    }
+
     private static void images() {
-        SeatHall x = Check.hall("evening 0 3;".repeat(16) + "people 60 comes 500 falls 90 worth 12 0 0 0;ten 7 20;");
+        SeatHall x = Check.hall("evening 0 3 rain 500;".repeat(16) + "people 60 comes 500 wet 300 falls 90 worth 12 0 0 0;ten 7 20;");
         due("30: no run", 0, () -> Check.bit(x.image()));
         due("31: no image", 0, () -> Check.bit(x.restore()));
         x.begin(77);
@@ -723,8 +861,10 @@ public final class PromiseTests {
         due("30: an image", 1, () -> Check.bit(x.image()));
         x.on(11);
         long[] seen = new long[16];
+        long[] wet = new long[16];
         for (int e = 0; e < 16; e++) {
             seen[e] = x.seen(e, 0);
+            wet[e] = x.seen(e, 3);
         }
         due("31: restored", 1, () -> Check.bit(x.restore()));
         due("31: it stands there", 5, () -> x.on(0));
@@ -732,9 +872,11 @@ public final class PromiseTests {
         x.on(11);
         row("31: all as it was", seen, i -> (long) x.seen(i, 0));
         x.begin(78);
+        x.on(16);
         due("30: the image stays", 1, () -> Check.bit(x.restore()));
         x.on(11);
         row("31: all as it was once more", seen, i -> (long) x.seen(i, 0));
+        row("31: wet as it was", wet, i -> (long) x.seen(i, 3));
         due("30: in place of another one", 1, () -> Check.bit(x.image()));
         x.begin(79);
         x.restore();
