@@ -568,9 +568,11 @@ public final class PromiseTests {
         due("19: who never comes", 400, () -> w.over(1, 0));
         SeatHall u = Check.hall("chairs 395;evening 0 0;" + "people 5 comes 1 worth 9 0 0 0;".repeat(5) + "people 5 comes 1000 worth 9 0 0 0;");
         due("19: the last of six kinds", 395, () -> u.over(5, 0));
-        // Numbers that are cut down lose: behind the highest standing falls below the doubt again.
+        // Of m people at a half all but (m and 1) by 2 to the power of m stand. Numbers that are cut down lose:
+        // 25 are above 999999000, but 400 are below it again (999992510).
         SeatHall v = Check.hall("chairs 1;evening 0 0;people 5 comes 500 worth 9 0 0 0;");
-        due("19: the greatest number of all", 400, () -> v.over(0, 999999960));
+        due("19: up to the doubt", 21, () -> v.over(0, 999990000));
+        due("19: the greatest number of all", 400, () -> v.over(0, 999999000));
     }
 
     private static void again() {
