@@ -1,3 +1,7 @@
+import java.io.IOException;
+import java.io.UncheckedIOException;
+import java.nio.file.Files;
+import java.nio.file.Path;
 import java.util.NoSuchElementException;
 
 /** Counts the tests of one main: each is a name with an answer that is due. */
@@ -10,8 +14,44 @@ final class Check {
         long answer();
     }
 
+    private static final Path DOCUMENT = Path.of("../shared/DOC.md");
+
     private int passed;
     private int failed;
+    private String sentence = "";
+    private String document = "";
+
+    /** Tests from here on are of these words of the document: their names begin with them. */
+    void says(String place, String words) {
+        sentence = place + " '" + words + "'";
+        if (!document().isEmpty() && !document().contains(words)) {
+            failed++;
+            System.out.println(sentence + " does not stand in the document");
+        }
+    }
+
+    // Where the document does not lie beside the project no words are looked up in it.
+    private String document() {
+        if (document.isEmpty() && Files.isReadable(DOCUMENT)) {
+            try {
+                document = Files.readString(DOCUMENT).replaceAll("\\s+", " ");
+            } catch (IOException e) {
+                throw new UncheckedIOException(e);
+            }
+        }
+        return document;
+    }
+
+    void is(String name, long want, Call call) {
+        due(sentence + ": " + name, want, call);
+    }
+
+    void row(String name, long[] want, java.util.function.IntFunction<Long> call) {
+        for (int i = 0; i < want.length; i++) {
+            int at = i;
+            is(name + " [" + i + "]", want[i], () -> call.apply(at));
+        }
+    }
 
     void due(String name, long want, Call call) {
         long got = ask(call);

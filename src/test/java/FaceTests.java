@@ -71,6 +71,14 @@ public final class FaceTests {
         CHECK.due("face: public and final", Modifier.PUBLIC | Modifier.FINAL, () -> SeatHall.class.getModifiers());
     }
 
+    private static boolean isOfTheFace(String name) {
+        boolean there = false;
+        for (String method : FACE) {
+            there |= method.startsWith(name + " ");
+        }
+        return there;
+    }
+
     private static void innerClasses() {
         Class<?>[] inside = SeatHall.class.getDeclaredClasses();
         CHECK.due("rule 11: at most twelve classes", 1, () -> Check.bit(inside.length <= 12));
@@ -84,6 +92,7 @@ public final class FaceTests {
             int some = fields;
             CHECK.due("rule 11: at most twenty fields in " + type.getName(), 1, () -> Check.bit(some <= 20));
             for (Method method : type.getDeclaredMethods()) {
+                CHECK.due("rule 1: no name of the face for " + method.getName(), 0, () -> Check.bit(isOfTheFace(method.getName())));
                 CHECK.due("rule 11: at most seven parameters of " + method.getName(), 1, () -> Check.bit(method.getParameterCount() <= 7));
             }
         }
