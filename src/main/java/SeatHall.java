@@ -1341,7 +1341,7 @@ public final class SeatHall {
             for (int ticket = DOOR; ticket < TICKETS; ticket++) {
                 boolean wanted = false;
                 for (int kind = 0; kind < told.kinds; kind++) {
-                    wanted |= at(books.bought, kind) == ticket && at(told.many, kind) > 0;
+                    wanted = wanted || (at(books.bought, kind) == ticket && at(told.many, kind) > 0);
                 }
                 if (wanted) {
                     put(row, size, ticket);

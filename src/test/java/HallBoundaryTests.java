@@ -354,6 +354,10 @@ public final class HallBoundaryTests {
                 + "people 4 comes 500 thinks 0 worth 0 22 0 0;year 1;cheap 0;");
         CHECK.row("a YOUNG one", new long[] {1, 4, 0}, i -> (long) young.buys(i));
         CHECK.row("takes a chair, too", new long[] {1000000, 20000, 1000000, 1500000}, i -> (long) young.again(0, 0, i));
+        for (String ticket : new String[] {"ten 1 0;", "set 0 of 0;"}) {
+            SeatHall other = hall("evening 0 8;people 3" + SURE + "people 2 comes 1000 thinks 0 worth 9 0 0 0;" + ticket);
+            CHECK.row("who has another takes none [" + ticket + "]", new long[] {0, 0, 1000000, 0}, i -> (long) other.again(0, 0, i));
+        }
     }
 
     private static void turnedAndEmpty() {
@@ -424,9 +428,9 @@ public final class HallBoundaryTests {
         SeatHall all = hall("evening 1 9;".repeat(14) + "evening 0 9;evening 0 9;people 1 comes 1000 worth 9 1 0 0;");
         CHECK.is("of sixteen", 17000, () -> all.pair(17));
         CHECK.row("the last two of sixteen", new long[] {14, 15}, i -> (long) all.paired(i));
-        SeatHall thinks = hall("evening 0 9;evening 0 9;people 1 comes 0 thinks 1000 worth 9 0 0 0;people 1 comes 1000 thinks 0 worth 9 0 0 0;");
-        CHECK.is("who thinks he comes buys it", 17000, () -> thinks.pair(17));
-        CHECK.is("once more", 17000, () -> thinks.pair(17));
+        SeatHall thinks = hall("evening 0 9;evening 0 9;people 2 comes 0 thinks 1000 worth 9 0 0 0;people 1 comes 1000 thinks 0 worth 9 0 0 0;");
+        CHECK.is("those who think that they come buy it", 34000, () -> thinks.pair(17));
+        CHECK.is("once more", 34000, () -> thinks.pair(17));
         SeatHall ends = hall("evening 0 9;" + "evening 1 9;".repeat(14) + "evening 0 9;people 1 comes 1000 worth 9 1 0 0;");
         CHECK.is("of both ends", 17000, () -> ends.pair(17));
         CHECK.row("the first and the last", new long[] {0, 15}, i -> (long) ends.paired(i));
@@ -558,6 +562,7 @@ public final class HallBoundaryTests {
         order(three + "seats 1 adds 0;seats 1 adds 99;", 99000);
         order(three + "seats 1 adds 1;seats 1 adds 2;seats 1 adds 3;seats 1 adds 4;", 9000);
         order(three + "seats 400 adds 1;seats 2 adds 99;", 2 * 99000 + 1000);
+        order("evening 0 0;people 1 comes 500 worth 9 0 0 0;people 1" + SURE + "seats 1 adds 9;", 4500);
         order(three + "seats 1 adds 4;seats 1 adds 3;seats 1 adds 2;seats 1 adds 1;", 9000);
         order(three + "seats 1 adds 1;seats 1 adds 7;seats 1 adds 7;", 15000);
         order(three + "seats 1 adds 2;seats 1 adds 3;seats 1 adds 1;seats 1 adds 3;", 8000);

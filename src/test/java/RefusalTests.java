@@ -164,10 +164,12 @@ public final class RefusalTests {
     private void ofOtherHalls() {
         CHECK.says("Promise 3", "are a HALL, all anew");
         String[] halls = {
-            "chairs 60;evening 0 9 rain 9;evening 0 9;people 9 comes 999 worth 9 0 0 0;people 9 comes 999 habit 900 falls 9 worth 99 0 0 0 young;"
-                + "seats 1 adds 9;seats 2 adds 8;seats 3 adds 7;seats 4 adds 6;ten 9 1;set 1 of 1;cheap 9;year 99;",
+            "chairs 60;evening 0 9 rain 9;evening 1 9;people 9 comes 999 worth 9 0 0 0;people 9 comes 999 habit 900 falls 9 worth 99 0 0 0 young;"
+                + "seats 1 adds 6;seats 2 adds 7;seats 3 adds 8;seats 4 adds 9;ten 9 1;set 1 of 1;cheap 9;year 99;",
             "costs 9;" + "evening 1 5 rain 700;".repeat(16) + "people 60 comes 900 wet 500 worth 1 9 1 1 young;".repeat(6) + "year 3;set 0 of 1;",
-            "evening 0 5;evening 0 5;evening 1 5;people 1 comes 1000 thinks 1 habit 999 worth 9 9 9 9;set 0 of 1;ten 1 0;seats 9 adds 99;"};
+            "evening 0 20;evening 1 20;evening 2 20;people 1 comes 10 thinks 0 worth 30 30 30 0;people 1 comes 20 thinks 1000 worth 19 19 19 0;"
+                + "people 1 comes 300 thinks 1000 worth 19 0 0 0;people 1 comes 400 thinks 1000 worth 0 19 19 0;"
+                + "people 1 comes 900 thinks 1000 worth 19 19 19 0 young;year 12;ten 1 3;set 5 of 1 2;cheap 1;seats 9 adds 99;"};
         for (int last = 0; last < halls.length; last++) {
             SeatHall x = new SeatHall();
             for (int i = 0; i <= last; i++) {

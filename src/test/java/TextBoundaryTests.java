@@ -616,6 +616,15 @@ public final class TextBoundaryTests {
         CHECK.row("all anew: price", new long[] {-1, -1, -1, -1, -1}, i -> (long) x.price(i));
         CHECK.is("all anew: evening", NO_SUCH, () -> x.evening(0, 0));
         CHECK.is("all anew: kind", NO_SUCH, () -> x.kind(0, 0));
+        // Texts take turns: of each the SET alone that it tells has the evening to which its people go.
+        String set = EVENING.replace("0 0", "0 9").repeat(2) + "people 1 comes 1000 worth 9 0 0 0;set 0 of ";
+        for (int turn = 0; turn < 6; turn++) {
+            int told = turn / 2 % 2;
+            Check.feed(x, set + told + ";");
+            x.hall(set.length() + 2);
+            CHECK.row("whether the SET has it " + turn, new long[] {1 - told, told}, i -> (long) x.evening(i, 3));
+            CHECK.row("whether it goes " + turn, new long[] {1 - told, told}, i -> Check.bit(x.goes(0, i, 0, 0)));
+        }
     }
 
     private static void gone() {
