@@ -209,7 +209,7 @@ public final class TextBoundaryTests {
     // ---- Terms 1: tokens and lines ----
 
     private static void words() {
-        CHECK.says("Terms 1", "words (a .. z, the longest row)");
+        CHECK.says("Terms 1", "TOKENS: words (a .. z, the longest row)");
         for (String word : new String[] {"chairs", "costs", "evening", "people", "seats", "year", "ten", "set", "cheap"}) {
             faulty(word + "a 1;", 1, 0);
             faulty(word + "z 1;", 1, 0);
